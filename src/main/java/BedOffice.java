@@ -583,11 +583,11 @@ public final class BedOffice {
         }
 
         boolean wants(int t, int trade) {
-            return has(t) && (trades[t] >> trade & 1) == 1;
+            return t >= 0 && t < size && (trades[t] >> trade & 1) == 1;
         }
 
         boolean teaches(int t, int tongue) {
-            return has(t) && (schools[t] >> tongue & 1) == 1;
+            return t >= 0 && t < size && (schools[t] >> tongue & 1) == 1;
         }
 
         int milesBetween(int one, int other) {
