@@ -14,6 +14,7 @@ public final class FuzzTest {
     private final int strange;
     private final int[] weights = new int[OPS];
     private final int[] names = new int[4];
+    private final int theme;
     private boolean failed;
 
     private static final int OPS = 46;
@@ -24,7 +25,7 @@ public final class FuzzTest {
         for (int i = 0; i < OPS; i++) weights[i] = 1 + random.nextInt(6);
         for (int i = 0; i < names.length; i++) names[i] = random.nextInt(1000000);
         // Some runs stand in few themes, so that these get deep.
-        int theme = random.nextInt(6);
+        theme = random.nextInt(6);
         if (theme == 1) for (int i : new int[] {6, 7, 8, 9, 10, 11, 12, 13, 14, 15, 16}) weights[i] += 20;
         if (theme == 2) for (int i : new int[] {17, 18, 19, 20, 21, 22}) weights[i] += 25;
         if (theme == 3) for (int i : new int[] {25, 26, 27, 28, 29, 35, 39}) weights[i] += 15;
@@ -73,6 +74,18 @@ public final class FuzzTest {
         for (int i = 0; i < homes; i++) call(2);
         for (int i = 0; i < families; i++) call(4);
         if (random.nextBoolean()) call(21);
+        if (theme == 3) dense();
+    }
+
+    /** Few towns, many wishes and many kin: so that what is best hangs on more than heads. */
+    private void dense() {
+        for (int i = 0; i < 12; i++) {
+            call(5);
+            call(5);
+            call(7);
+            call(14);
+            call(14);
+        }
     }
 
     private void due(String call, long want, long got) {

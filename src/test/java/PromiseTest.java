@@ -698,6 +698,11 @@ public final class PromiseTest {
         fault("ahea d 1;", 0);
         fault("ahead1;", NONE);
         fault("ahead heads5;", 11);
+        fault("ahead headsz;", 6);
+        fault("ahead headsa;", 6);
+        fault("ahead zheads;", 6);
+        fault("ahead 12 3;", 9);
+        fault("ahead 9;", NONE);
         fault("ahead 5heads;", 7);
         fault("ahead Heads;", 6);
         fault("ahead heads\t;", 11);
@@ -1137,6 +1142,12 @@ public final class PromiseTest {
         x.leave(3);
         due("gone", 0, x.place());
         wishes();
+        weights(100, false, 2);
+        weights(101, false, 3);
+        weights(99, false, 2);
+        weights(1000, true, 2);
+        weights(1001, true, 3);
+        weights(999, true, 2);
         negative();
         lateAsked();
     }
@@ -1170,6 +1181,32 @@ public final class PromiseTest {
         due("place", 2, y.place());
         due("the greatest lack: 100 of town 0", 0, y.told(0, 1));
         due("a wish is 100: 91 and 100 above 90", 2, y.told(1, 1));
+    }
+
+    /** 1000 times kin, 100 times wish and lack, together: as much elsewhere, and one less and one more. */
+    private static void weights(int share, boolean kin, int home) {
+        BedOffice x = new BedOffice();
+        x.town(0, 0, 0);
+        x.town(100, 1, 0);
+        x.home(0, 204, 200);
+        x.home(1, 204, 200);
+        x.home(0, 204, 200);
+        x.home(1, 204, 200);
+        x.family(100, 0);
+        x.family(100, 0);
+        x.family(200, 1);
+        law(x, "must clan=0;");
+        x.place();
+        due("0 and 1 stand in two towns", 1, x.told(0, 1) + x.told(1, 1));
+        law(x, "must 1=1;share seats*" + share + ";");
+        if (kin) {
+            x.record(0, 5, 5, 0, 2);
+            x.seek(0, 5, 5);
+        } else {
+            x.wish(2, 0);
+        }
+        x.place();
+        due("share " + share + " there, kin " + kin + " here", home, x.told(2, 1));
     }
 
     private static void negative() {
@@ -1630,6 +1667,7 @@ public final class PromiseTest {
         due("one of them alone", 1, x.best(1, 7, 0));
         bestHeads();
         bestOfHoused();
+        bestForThose();
     }
 
     private static void bestHeads() {
@@ -1655,6 +1693,39 @@ public final class PromiseTest {
         due("one seat is left for two pupils", 3, x.best(12, 10, NONE));
         due("the first", 1, x.best(12, 10, 0));
         due("none", NONE, x.best(12, 10, 1));
+    }
+
+    /** What is best for later families moves the first one. */
+    private static void bestForThose() {
+        BedOffice x = new BedOffice();
+        x.town(0, 0, 0);
+        x.town(10, 0, 0);
+        x.home(0, 304, 200);
+        x.home(1, 304, 200);
+        x.home(0, 304, 200);
+        for (int i = 0; i < 3; i++) x.family(300, 0);
+        for (int k = 0; k < 3; k++) due("the first way " + k, k, x.best(7, 7, k));
+        x.wish(2, 1);
+        int[] wished = {0, 2, 1};
+        for (int k = 0; k < 3; k++) due("the wish of the last one " + k, wished[k], x.best(7, 7, k));
+        x.wish(1, 0);
+        x.wish(0, 1);
+        for (int k = 0; k < 3; k++) due("two wishes, the first way " + k, wished[k], x.best(7, 7, k));
+        x.wish(2, 0);
+        int[] all = {1, 0, 2};
+        for (int k = 0; k < 3; k++) due("three wishes " + k, all[k], x.best(7, 7, k));
+        for (int f = 0; f < 3; f++) x.wish(f, NONE);
+        x.record(0, 5, 5, 0, 1);
+        x.seek(2, 5, 5);
+        for (int k = 0; k < 3; k++) due("kin behind the first one " + k, all[k], x.best(7, 7, k));
+        x.wish(0, 0);
+        x.wish(1, 1);
+        x.wish(2, 1);
+        for (int k = 0; k < 3; k++) due("one pair counts more than three wishes " + k, all[k], x.best(7, 7, k));
+        x.family(600, 0);
+        due("heads of three homes", 9, x.best(15, 7, NONE));
+        x.home(1, 904, 200);
+        due("heads count more than a pair", 12, x.best(15, 11, NONE));
     }
 
     private static void bestOfHoused() {
@@ -2016,6 +2087,22 @@ public final class PromiseTest {
         x.go(1);
         due("a million", 1005015, x.is(1, 3));
         due("check", 0, x.check(2, 4, 0));
+        BedOffice y = new BedOffice();
+        y.town(0, 1540, 0);
+        for (int i = 0; i < 24; i++) {
+            y.home(0, 104, 200);
+            y.family(100, 0);
+        }
+        due("place", 24, y.place());
+        law(y, "sum 99999*99999;");
+        go(y, 83);
+        due("24 millions a day", 83 * 24000000, y.is(0, 3));
+        due("ended(0, 4)", 24000000, y.ended(0, 4));
+        y.go(1);
+        due("2000000000 at most are told", 2000000000, y.is(0, 3));
+        go(y, 200);
+        due("2000000000 at most are told", 2000000000, y.is(0, 3));
+        due("ended(199, 4)", 24000000, y.ended(199, 4));
     }
 
     private static void promise48count() {
