@@ -405,7 +405,7 @@ public final class BedOffice {
     }
 
     public int best(int families, int homes, int k) {
-        if (!choice.canBeAsked(families, homes) || k < NONE || k >= choice.families) {
+        if (!choice.takes(families, homes) || k < NONE || k >= choice.families) {
             return NONE;
         }
         choice.search();
@@ -1615,7 +1615,8 @@ public final class BedOffice {
             register = itsRegister;
         }
 
-        boolean canBeAsked(int familyBits, int homeBits) {
+        /** Takes over what is asked for: false if that can't be asked. */
+        boolean takes(int familyBits, int homeBits) {
             families = unpacked(familyBits, register.families.size, family);
             homes = unpacked(homeBits, register.homes.size, home);
             chosen = familyBits;

@@ -21,7 +21,7 @@ public final class FuzzTest {
 
     private FuzzTest(long seed) {
         random = new Random(seed);
-        strange = random.nextInt(4) == 0 ? 12 : 200;
+        strange = new int[] {3, 12, 12, 200, 200, 200, 200, 200}[random.nextInt(8)];
         for (int i = 0; i < OPS; i++) weights[i] = 1 + random.nextInt(6);
         for (int i = 0; i < names.length; i++) names[i] = random.nextInt(1000000);
         // Some runs stand in few themes, so that these get deep.
