@@ -1,24 +1,5 @@
-import java.util.ArrayList;
-import java.util.List;
-
 /** Each promise of the document by calls with the answers that are due: ordinary ones, edges and wrong ones. */
-public final class PromiseTest {
-    private static final int NONE = -1;
-    private static final int LEAST = -2147483648;
-    private static final int MAX = 2147483647;
-    private static final int[] FAR = {LEAST, -100000, -1000, -2, 100000, 1000000, MAX};
-
-    private static int asked;
-    private static final List<String> wrong = new ArrayList<>();
-    private static String promise = "";
-
-    private static void due(String call, long want, long got) {
-        asked++;
-        if (want != got) wrong.add(promise + ": " + call + " answered " + got + ", due is " + want);
-    }
-
-    private static void due(String call, boolean want, boolean got) { due(call, want ? 1 : 0, got ? 1 : 0); }
-
+public final class PromiseTest extends Checked {
     public static void main(String[] args) {
         promise1();
         promise2town();
@@ -69,47 +50,13 @@ public final class PromiseTest {
         promise46told();
         promise47is();
         promise48count();
-        for (String line : wrong) System.out.println(line);
-        System.out.println("PromiseTest: " + (asked - wrong.size()) + " answers as due, " + wrong.size() + " not");
-        if (!wrong.isEmpty()) System.exit(1);
-    }
-
-    // ---- helpers
-
-    /** Puts a text in place of what was fed: its length. */
-    private static int lay(BedOffice x, String text) {
-        x.end(0);
-        StringBuilder padded = new StringBuilder(text);
-        while (padded.length() % 20 != 0) padded.append('\t');
-        for (int at = 0; at < padded.length(); at += 20) {
-            int[] n = new int[5];
-            for (int i = 0; i < 20; i++) n[i / 4] = n[i / 4] << 8 | padded.charAt(at + i);
-            x.feed(n[0], n[1], n[2], n[3], n[4]);
-        }
-        x.end(text.length());
-        return text.length();
-    }
-
-    private static int law(BedOffice x, String text) {
-        lay(x, text);
-        return x.sheet();
-    }
-
-    private static void fault(String text, int place) {
-        BedOffice x = new BedOffice();
-        lay(x, text);
-        due("fault() of \"" + text + "\"", place, x.fault());
-        due("count(6) behind fault()", text.length(), x.count(6));
-    }
-
-    private static void go(BedOffice x, int days) {
-        for (int left = days; left > 0; left -= 40) x.go(Math.min(40, left));
+        tell("PromiseTest");
     }
 
     // ---- 1 to 8: what is told
 
     private static void promise1() {
-        promise = "1";
+        about = "promise 1";
         BedOffice x = new BedOffice();
         for (int i = 0; i <= 12; i++) due("count(" + i + ")", 0, x.count(i));
         due("NONE", -1, BedOffice.NONE);
@@ -122,7 +69,7 @@ public final class PromiseTest {
     }
 
     private static void promise2town() {
-        promise = "2";
+        about = "promise 2";
         BedOffice x = new BedOffice();
         for (int n : FAR) {
             due("town mile " + n, NONE, x.town(n, 0, 0));
@@ -150,7 +97,7 @@ public final class PromiseTest {
     }
 
     private static void promise3full() {
-        promise = "3";
+        about = "promise 3";
         BedOffice x = new BedOffice();
         due("none such", false, x.full(0, true));
         x.town(0, 0, 0);
@@ -169,7 +116,7 @@ public final class PromiseTest {
     }
 
     private static void promise4home() {
-        promise = "4";
+        about = "promise 4";
         BedOffice x = new BedOffice();
         due("no town", NONE, x.home(0, 104, 200));
         x.town(0, 0, 0);
@@ -199,7 +146,7 @@ public final class PromiseTest {
     }
 
     private static void promise5beds() {
-        promise = "5";
+        about = "promise 5";
         BedOffice x = new BedOffice();
         for (int n : FAR) due("beds(" + n + ")", false, x.beds(n));
         due("beds(-1)", false, x.beds(-1));
@@ -215,7 +162,7 @@ public final class PromiseTest {
     }
 
     private static void promise6family() {
-        promise = "6";
+        about = "promise 6";
         BedOffice x = new BedOffice();
         for (int n : FAR) {
             due("family what " + n, NONE, x.family(n, 0));
@@ -248,7 +195,7 @@ public final class PromiseTest {
     }
 
     private static void promise7wish() {
-        promise = "7";
+        about = "promise 7";
         BedOffice x = new BedOffice();
         due("none such", false, x.wish(0, NONE));
         x.family(100, 0);
@@ -279,7 +226,7 @@ public final class PromiseTest {
     }
 
     private static void promise8apart() {
-        promise = "8";
+        about = "promise 8";
         BedOffice x = new BedOffice();
         for (int n : FAR) {
             due("apart one " + n, false, x.apart(n, 0, 1));
@@ -318,7 +265,7 @@ public final class PromiseTest {
     // ---- 9 to 19: records and kin
 
     private static void promise9record() {
-        promise = "9";
+        about = "promise 9";
         BedOffice x = new BedOffice();
         for (int n : FAR) {
             due("record list " + n, NONE, x.record(n, 0, 0, 0, NONE));
@@ -348,7 +295,7 @@ public final class PromiseTest {
     }
 
     private static void promise10alike() {
-        promise = "10";
+        about = "promise 10";
         BedOffice x = new BedOffice();
         x.record(0, 123456, 30, 0, NONE);
         x.record(1, 123456, 30, 1002, NONE);
@@ -384,7 +331,7 @@ public final class PromiseTest {
     }
 
     private static void promise11match() {
-        promise = "11";
+        about = "promise 11";
         BedOffice x = new BedOffice();
         due("none such", NONE, x.match(0));
         x.record(0, 123456, 30, 10020, NONE);
@@ -412,7 +359,7 @@ public final class PromiseTest {
     }
 
     private static void promise12rivals() {
-        promise = "12";
+        about = "promise 12";
         BedOffice x = new BedOffice();
         due("none such", NONE, x.rivals(0));
         x.record(0, 111111, 30, 0, NONE);
@@ -433,7 +380,7 @@ public final class PromiseTest {
     }
 
     private static void promise13join() {
-        promise = "13";
+        about = "promise 13";
         BedOffice x = new BedOffice();
         x.record(0, 1, 1, 0, NONE);
         x.record(1, 222222, 90, 1001, NONE);
@@ -466,7 +413,7 @@ public final class PromiseTest {
     }
 
     private static void promise14part() {
-        promise = "14";
+        about = "promise 14";
         BedOffice x = new BedOffice();
         due("none such", NONE, x.part(0));
         x.record(0, 1, 1, 0, NONE);
@@ -492,7 +439,7 @@ public final class PromiseTest {
     }
 
     private static void promise15same() {
-        promise = "15";
+        about = "promise 15";
         BedOffice x = new BedOffice();
         due("none such", false, x.same(0, 0));
         x.record(0, 1, 1, 0, NONE);
@@ -515,7 +462,7 @@ public final class PromiseTest {
     }
 
     private static void promise16seek() {
-        promise = "16";
+        about = "promise 16";
         BedOffice x = new BedOffice();
         due("none such", false, x.seek(0, 1, 1));
         x.family(100, 0);
@@ -538,7 +485,7 @@ public final class PromiseTest {
     }
 
     private static void promise17finds() {
-        promise = "17";
+        about = "promise 17";
         BedOffice x = new BedOffice();
         for (int i = 0; i < 4; i++) x.family(100, 0);
         x.record(0, 123456, 30, 5, 1);
@@ -580,7 +527,7 @@ public final class PromiseTest {
     }
 
     private static void promise18kin() {
-        promise = "18";
+        about = "promise 18";
         BedOffice x = new BedOffice();
         due("none such", NONE, x.kin(0));
         for (int i = 0; i < 24; i++) x.family(100, 0);
@@ -609,7 +556,7 @@ public final class PromiseTest {
     }
 
     private static void promise19mutual() {
-        promise = "19";
+        about = "promise 19";
         BedOffice x = new BedOffice();
         due("none such", NONE, x.mutual(0));
         for (int i = 0; i < 3; i++) x.family(100, 0);
@@ -634,7 +581,7 @@ public final class PromiseTest {
     // ---- 20 to 25: the text and the sheets
 
     private static void promise20feed() {
-        promise = "20";
+        about = "promise 20";
         BedOffice x = new BedOffice();
         due("20 bytes", 20, x.feed(0x61686561, 0x64203132, 0x333b2020, 0x20202020, 0x0a202020));
         due("ahead 123;", NONE, x.fault());
@@ -655,7 +602,7 @@ public final class PromiseTest {
     }
 
     private static void promise21end() {
-        promise = "21";
+        about = "promise 21";
         BedOffice x = new BedOffice();
         due("end(0)", true, x.end(0));
         due("end(1)", false, x.end(1));
@@ -676,7 +623,7 @@ public final class PromiseTest {
     }
 
     private static void promise22fault() {
-        promise = "22";
+        about = "promise 22";
         fault("", NONE);
         fault(" \n ", NONE);
         fault("ahead heads;", NONE);
@@ -772,7 +719,7 @@ public final class PromiseTest {
     }
 
     private static void promise23sheet() {
-        promise = "23";
+        about = "promise 23";
         BedOffice x = new BedOffice();
         lay(x, "limit 7");
         due("with a fault", NONE, x.sheet());
@@ -796,7 +743,7 @@ public final class PromiseTest {
     }
 
     private static void promise24strike() {
-        promise = "24";
+        about = "promise 24";
         BedOffice x = new BedOffice();
         due("none such", false, x.strike(0));
         law(x, "limit 1;");
@@ -817,7 +764,7 @@ public final class PromiseTest {
     }
 
     private static void promise25why() {
-        promise = "25";
+        about = "promise 25";
         BedOffice x = new BedOffice();
         due("none", NONE, x.why(2, 0));
         law(x, "limit 1;");
@@ -872,7 +819,7 @@ public final class PromiseTest {
     }
 
     private static void promise26rank() {
-        promise = "26";
+        about = "promise 26";
         ahead(5, "heads");
         ahead(4, "pupils");
         ahead(1, "lame");
@@ -934,7 +881,7 @@ public final class PromiseTest {
     }
 
     private static void names() {
-        promise = "26 to 28, NAMES";
+        about = "promise 26 to 28, NAMES";
         for (int turn = 0; turn < 3; turn++) {
             BedOffice x = new BedOffice();
             x.town(100, 1540, 8);
@@ -989,7 +936,7 @@ public final class PromiseTest {
     private static final int HALL = 0;
 
     private static void promise27lack() {
-        promise = "27";
+        about = "promise 27";
         BedOffice x = new BedOffice();
         due("none such", LEAST, x.lack(0));
         x.town(0, 1510, 0);
@@ -1025,7 +972,7 @@ public final class PromiseTest {
     }
 
     private static void promise28bar() {
-        promise = "28";
+        about = "promise 28";
         BedOffice x = new BedOffice();
         due("none such", NONE, x.bar(0, 0));
         x.town(100, 305, 0);
@@ -1115,7 +1062,7 @@ public final class PromiseTest {
     // ---- 29 to 32: placing and moving
 
     private static void promise29place() {
-        promise = "29";
+        about = "promise 29";
         BedOffice x = new BedOffice();
         due("nobody", 0, x.place());
         x.town(0, 0, 0);
@@ -1237,7 +1184,7 @@ public final class PromiseTest {
     }
 
     private static void promise30passed() {
-        promise = "30";
+        about = "promise 30";
         BedOffice x = new BedOffice();
         due("never was", NONE, x.passed(0, 0));
         x.town(0, 0, 0);
@@ -1318,7 +1265,7 @@ public final class PromiseTest {
     }
 
     private static void promise31move() {
-        promise = "31";
+        about = "promise 31";
         BedOffice x = new BedOffice();
         due("none such", NONE, x.move(0, NONE));
         x.town(0, 1504, 1);
@@ -1370,7 +1317,7 @@ public final class PromiseTest {
     }
 
     private static void promise32leave() {
-        promise = "32";
+        about = "promise 32";
         BedOffice x = new BedOffice();
         due("none such", false, x.leave(0));
         x.town(0, 1540, 0);
@@ -1404,7 +1351,7 @@ public final class PromiseTest {
     // ---- 33 to 37: days
 
     private static void promise33go() {
-        promise = "33";
+        about = "promise 33";
         BedOffice x = new BedOffice();
         for (int n : FAR) due("go(" + n + ")", NONE, x.go(n));
         due("go(-1)", NONE, x.go(-1));
@@ -1445,7 +1392,7 @@ public final class PromiseTest {
     }
 
     private static void promise34night() {
-        promise = "34";
+        about = "promise 34";
         BedOffice x = new BedOffice();
         x.town(0, 0, 0);
         x.home(0, 104, 200);
@@ -1482,7 +1429,7 @@ public final class PromiseTest {
     }
 
     private static void promise35lead() {
-        promise = "35";
+        about = "promise 35";
         BedOffice x = new BedOffice();
         x.town(0, 0, 0);
         x.home(0, 104, 200);
@@ -1523,7 +1470,7 @@ public final class PromiseTest {
     }
 
     private static void promise36beyond() {
-        promise = "36";
+        about = "promise 36";
         BedOffice x = new BedOffice();
         due("nobody", 0, x.beyond());
         x.family(200, 0);
@@ -1546,7 +1493,7 @@ public final class PromiseTest {
     }
 
     private static void promise37ends() {
-        promise = "37";
+        about = "promise 37";
         BedOffice x = new BedOffice();
         x.town(0, 0, 0);
         x.family(501, 0);
@@ -1575,7 +1522,7 @@ public final class PromiseTest {
     }
 
     private static void promise38show() {
-        promise = "38";
+        about = "promise 38";
         BedOffice x = new BedOffice();
         x.town(0, 0, 0);
         x.town(0, 0, 0);
@@ -1627,7 +1574,7 @@ public final class PromiseTest {
     // ---- 39 to 43: looking ahead
 
     private static void promise39best() {
-        promise = "39";
+        about = "promise 39";
         BedOffice x = new BedOffice();
         due("nothing", NONE, x.best(1, 1, NONE));
         x.town(0, 1503, 0);
@@ -1764,7 +1711,7 @@ public final class PromiseTest {
     }
 
     private static void promise40boat() {
-        promise = "40";
+        about = "promise 40";
         BedOffice x = new BedOffice();
         x.go(5);
         for (int n : FAR) {
@@ -1789,7 +1736,7 @@ public final class PromiseTest {
     }
 
     private static void promise41foretell() {
-        promise = "41";
+        about = "promise 41";
         BedOffice x = new BedOffice();
         x.go(5);
         for (int n : FAR) {
@@ -1814,7 +1761,7 @@ public final class PromiseTest {
     }
 
     private static void promise42worst() {
-        promise = "42";
+        about = "promise 42";
         BedOffice x = new BedOffice();
         due("nothing", 0, x.worst(0, 0));
         due("nothing", NONE, x.worst(0, 1));
@@ -1866,7 +1813,7 @@ public final class PromiseTest {
     }
 
     private static void promise43beside() {
-        promise = "43";
+        about = "promise 43";
         BedOffice x = new BedOffice();
         due("none such", NONE, x.beside(0));
         x.town(0, 0, 0);
@@ -1922,7 +1869,7 @@ public final class PromiseTest {
     // ---- 44 to 48: what is kept and told
 
     private static void promise44check() {
-        promise = "44";
+        about = "promise 44";
         BedOffice x = new BedOffice();
         due("not ended", NONE, x.check(0, 0, 0));
         x.town(0, 0, 0);
@@ -1957,7 +1904,7 @@ public final class PromiseTest {
     }
 
     private static void promise45ended() {
-        promise = "45";
+        about = "promise 45";
         BedOffice x = new BedOffice();
         due("not ended", NONE, x.ended(0, 0));
         x.go(1);
@@ -1995,7 +1942,7 @@ public final class PromiseTest {
     }
 
     private static void promise46told() {
-        promise = "46";
+        about = "promise 46";
         BedOffice x = new BedOffice();
         due("none such", NONE, x.told(0, 0));
         x.go(7);
@@ -2027,7 +1974,7 @@ public final class PromiseTest {
     }
 
     private static void promise47is() {
-        promise = "47";
+        about = "promise 47";
         BedOffice x = new BedOffice();
         due("none such", NONE, x.is(0, 0));
         x.town(321, 1540, 0);
@@ -2106,7 +2053,7 @@ public final class PromiseTest {
     }
 
     private static void promise48count() {
-        promise = "48";
+        about = "promise 48";
         BedOffice x = new BedOffice();
         x.town(0, 0, 0);
         x.town(1, 0, 0);
