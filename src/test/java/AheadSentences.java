@@ -137,6 +137,11 @@ final class AheadSentences extends Checked {
         due("the second", 2, x.best(7, 6, 2));
         due("three for three", 5, x.best(7, 7, NONE));
         for (int k = 0; k < 3; k++) due("k " + k, k, x.best(7, 7, k));
+        x.family(900, 0);
+        due("none for the one of most heads", 5, x.best(15, 7, NONE));
+        x.home(0, 904, 200);
+        due("one home: the one of most heads", 9, x.best(15, 8, NONE));
+        for (int k = 0; k < 4; k++) due("k " + k, k == 3 ? 3 : NONE, x.best(15, 8, k));
         due("three for one", 1, x.best(2, 7, NONE));
         due("the least number", 0, x.best(2, 7, 0));
     }
@@ -235,6 +240,53 @@ final class AheadSentences extends Checked {
         y.record(0, 5, 5, 0, 1);
         y.seek(2, 5, 5);
         ways(y, 7, 3, 2, NONE, 0, 1);
+        BedOffice z = new BedOffice();
+        z.town(0, 0, 0);
+        z.town(0, 0, 0);
+        for (int h = 0; h < 4; h++) z.home(h / 2, 904, 200);
+        for (int f = 0; f < 4; f++) z.family(100, 0);
+        z.wish(0, 1);
+        ways(z, 15, 15, 4, 2, 0, 1, 3);
+        z.wish(0, NONE);
+        z.wish(3, 0);
+        ways(z, 15, 15, 4, 0, 2, 3, 1);
+        // What was found for four is forgotten for three, two and one.
+        ways(z, 7, 15, 3, 0, 1, 2);
+        ways(z, 3, 15, 2, 0, 1);
+        ways(z, 1, 15, 1, 0);
+        z.record(0, 5, 5, 0, 3);
+        z.seek(0, 5, 5);
+        ways(z, 15, 15, 4, 0, 2, 3, 1);
+        ways(z, 7, 15, 3, 0, 1, 2);
+        z.family(900, 0);
+        ways(z, 30, 12, 10, 2, NONE, NONE, 3);
+        ways(z, 14, 12, 2, 2, 3, NONE);
+        // The law's best is another than who stands there: three heads where one was.
+        BedOffice w = new BedOffice();
+        w.town(0, 0, 0);
+        w.home(0, 304, 200);
+        w.family(100, 0);
+        w.place();
+        w.family(200, 0);
+        w.family(300, 0);
+        ways(w, 7, 1, 3, NONE, NONE, 0);
+        ways(w, 3, 1, 2, NONE, 0);
+        ways(w, 1, 1, 1, 0);
+        ways(w, 6, 1, 0, NONE, NONE);
+        due("nothing is done", 0, w.told(0, 1));
+        // One that comes behind leaves its home to one that is ahead of it.
+        BedOffice v = new BedOffice();
+        v.town(0, 0, 0);
+        v.home(0, 104, 200);
+        v.family(100, 0);
+        v.family(100, 1);
+        law(v, "ahead clan;");
+        v.place();
+        due("the second one is housed", 0, v.told(1, 1));
+        ways(v, 3, 1, 1, 0, NONE);
+        ways(v, 1, 1, 0, NONE);
+        ways(v, 2, 1, 1, 0);
+        due("nothing is done", 0, v.told(1, 1));
     }
 
     private static void ways(BedOffice x, int families, int homes, int heads, int... way) {
@@ -302,6 +354,9 @@ final class AheadSentences extends Checked {
         due("beds are told before the 0: 10 - 3 + 100 - 200 + 100 = 7", 15, x.worst(6, 0));
         x.boat(7, 0, 10);
         due("26 heads, 7 beds", 19, x.worst(7, 0));
+        BedOffice y = new BedOffice();
+        y.foretell(3, -100);
+        due("nobody, and fewer beds than none", 0, y.worst(200, 0));
         x.go(2);
         due("boats of days ahead are past: 4 heads, 7 beds", 0, x.worst(2, 0));
         due("4 and 5, 7 beds", 2, x.worst(3, 0));
@@ -335,6 +390,11 @@ final class AheadSentences extends Checked {
         due("past: one bed now, one more from NOW on", NONE, x.worst(200, 1));
         x.foretell(9, -1);
         due("one head, one bed", 200, x.worst(200, 1));
+        BedOffice y = new BedOffice();
+        y.foretell(3, -100);
+        due("nobody, and fewer beds than none", NONE, y.worst(200, 1));
+        y.boat(4, 0, 1);
+        due("one", 4, y.worst(200, 1));
     }
 
     @Sentence("MILD is the same with low.")
@@ -351,6 +411,12 @@ final class AheadSentences extends Checked {
         due("0 beds at least", 5, x.worst(3, 2));
         due("the greatest of all days", 6, x.worst(200, 2));
         due("worst", 204, x.worst(200, 0));
+        x.boat(4, 2, 2);
+        due("two boats of one day", 8, x.worst(200, 2));
+        due("two boats of one day", 206, x.worst(200, 0));
+        BedOffice y = new BedOffice();
+        y.foretell(3, -100);
+        due("nobody, and fewer beds than none", 0, y.worst(200, 2));
     }
 
     // ---- beside

@@ -49,6 +49,9 @@ final class LawSentences extends Checked {
             due("a byte " + b + " ahead of 1", c == '(' ? 8 : stands ? NONE : 6, x.fault());
             lay(x, "ahead 1" + c + ";");
             due("a byte " + b + " behind 1", "+-*/;".indexOf(c) >= 0 ? 8 : stands && c != '(' ? NONE : 7, x.fault());
+            lay(x, "ahead heads" + c + ";");
+            boolean letter = c >= 'a' && c <= 'z';
+            due("a byte " + b + " behind heads", "+-*/;".indexOf(c) >= 0 ? 12 : c == ' ' || c == '\n' ? NONE : letter ? 6 : 11, x.fault());
         }
         fault("ahead heads;", NONE);
         fault("aheadheads;", 0);
@@ -86,6 +89,7 @@ final class LawSentences extends Checked {
             for (int i = 0; i < 6; i++) all.append(whole[(one + 5 * i) % 6]);
             fault(all.toString(), NONE);
             fault(all + whole[one], all.length());
+            fault("x" + whole[one].substring(1), 0);
         }
     }
 
@@ -106,6 +110,7 @@ final class LawSentences extends Checked {
             fault("ahead " + name + ";", NONE);
             fault("ahead " + name + "s;", 6);
             fault("ahead x" + name + ";", 6);
+            fault("ahead x" + name.substring(1) + ";", 6);
             fault("ahead " + name.substring(1) + ";", 6);
             fault("ahead " + name.substring(0, name.length() - 1) + ";", 6);
         }
@@ -389,6 +394,23 @@ final class LawSentences extends Checked {
                 }
             }
         }
+        for (String sign : new String[] {"<", ">", "="}) {
+            for (int b = 0; b <= 2; b++) {
+                boolean holds = sign.equals("<") ? 1 < b : sign.equals(">") ? 1 > b : b == 1;
+                String one = "1" + sign + b;
+                holds(one, holds);
+                holds("not " + one, !holds);
+                holds("1=1 and not " + one, !holds);
+                holds("1=1 and " + one, holds);
+                holds("1=2 or not " + one, !holds);
+                holds("1=2 or " + one, holds);
+                holds("not [1=1 and " + one + "]", !holds);
+                holds("not [1=2 or not " + one + "]", holds);
+            }
+        }
+        fault("must 1=1 xnd 1=1;", 9);
+        fault("must 1=1 xr 1=1;", 9);
+        fault("must xot 1=1;", 5);
         holds("0-1<0", true);
         holds("0>0-1", true);
         holds("1+1=2", true);

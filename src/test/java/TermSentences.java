@@ -49,6 +49,13 @@ final class TermSentences extends Checked {
         due("count(1)", 8, x.count(1));
         for (int i = 0; i < 8; i++) due("is(" + i + ", 0)", i * 10, x.is(i, 0));
         due("is(8, 0)", NONE, x.is(8, 0));
+        x.home(7, 104, 200);
+        x.family(100, 0);
+        x.place();
+        law(x, "sum 5;");
+        due("a day of 8 towns", 1, x.go(1));
+        due("of the last one", 5, x.is(7, 3));
+        due("of all", 5, x.ended(0, 4));
     }
 
     @Sentence("a MILE (0 .. 999) on one road")
@@ -148,6 +155,16 @@ final class TermSentences extends Checked {
         x.family(100, 0);
         law(x, "share beds;");
         due("rooms of 24", 24, x.lack(0));
+        BedOffice y = new BedOffice();
+        y.town(0, 0, 0);
+        int rooms = 0;
+        for (int i = 0; i < 24; i++) {
+            int what = i % 9 * 100 + 100 + i % 2 * 10 + i % 5;
+            due("home of " + what, i, y.home(0, what, 200));
+            rooms += what / 100;
+        }
+        law(y, "share beds;");
+        due("rooms of others", rooms, y.lack(0));
         due("the last one", 0, x.bar(0, 23));
         due("none such", NONE, x.bar(0, 24));
     }
@@ -228,6 +245,9 @@ final class TermSentences extends Checked {
         due("told(24, 3)", NONE, x.told(24, 3));
         law(x, "limit all;");
         due("all", 2 * 45 + 21, x.rank(0, 1));
+        due("a day of 24 families", 1, x.go(1));
+        due("heads of that day", 2 * 45 + 21, x.ended(0, 0));
+        due("the last one", 100, x.night(23, 0));
         x.leave(0);
         due("one that is gone is one of the 24", NONE, x.family(100, 0));
     }
@@ -240,8 +260,9 @@ final class TermSentences extends Checked {
             due("family(" + what + ", 0)", can ? 0 : NONE, x.family(what, 0));
             due("count(7)", can ? what / 100 : 0, x.count(7));
             if (!can) continue;
-            law(x, "ahead heads*100+pupils*10+lame;");
+            law(x, "ahead heads*100+pupils*10+lame;limit all;");
             due("heads, pupils, lame of " + what, what, x.rank(0, 0));
+            due("all, with " + what, what / 100, x.rank(0, 1));
         }
     }
 
@@ -356,12 +377,16 @@ final class TermSentences extends Checked {
         BedOffice x = new BedOffice();
         x.family(100, 0);
         x.family(100, 0);
-        for (int i = 0; i < 60; i++) due("record " + i, i, x.record(i % 3, 100000 + i, 5, i, NONE));
+        for (int i = 0; i < 60; i++) due("record " + i, i, x.record(i % 3, 100000 + i, 5, 1001 * i, NONE));
         x.seek(0, 777777, 5);
         due("a 61st", NONE, x.record(0, 777777, 5, 0, 1));
         due("count(4)", 60, x.count(4));
         due("nothing is found by it", NONE, x.finds(0, 1));
         due("the last one", true, x.same(59, 59));
+        due("its match", 9, x.match(59));
+        due("joined", 2, x.join(59, 0));
+        due("joined", 3, x.join(0, 58));
+        due("parted", 3, x.part(59));
         due("none such", false, x.same(60, 60));
     }
 
@@ -467,6 +492,7 @@ final class TermSentences extends Checked {
         due("two more", 2, x.join(4, 5));
         due("heaps with list 1 twice", NONE, x.join(0, 4));
         due("heaps with list 1 twice, by others of them", NONE, x.join(0, 5));
+        due("list 0 twice", NONE, x.join(3, 0));
         due("three", 3, x.join(3, 4));
         due("the third list", 3, x.join(1, 2));
         due("each list twice", NONE, x.join(2, 3));
@@ -525,6 +551,9 @@ final class TermSentences extends Checked {
         x.record(1, 123456, 50, 9, NONE);
         due("as many: the least number", 8, x.match(0));
         due("4 points at least, of the other's side", 0, x.match(5));
+        x.record(2, 123455, 50, 9, NONE);
+        x.record(2, 123999, 50, 9, NONE);
+        due("later ones of fewer points", 8, x.match(0));
     }
 
     @Sentence("RIVALS are all others of as many points.")
@@ -583,17 +612,22 @@ final class TermSentences extends Checked {
         due("not joined yet", 5, x.finds(0, 1));
         x.join(2, 3);
         due("six points, by way of 2", 6, x.finds(0, 1));
+        x.record(1, 123451, 50, 9009, 1);
+        due("a later one of five", 6, x.finds(0, 1));
+        x.part(4);
         due("its own, and five by one joined: the greatest", 6, x.finds(0, 2));
         x.part(0);
-        due("parted", NONE, x.finds(0, 1));
+        due("parted: the later one", 5, x.finds(0, 1));
         due("its own", 6, x.finds(0, 2));
-        x.seek(0, 123477, 52);
-        due("four points by two seekings", NONE, x.finds(0, 1));
-        x.seek(0, 123446, 50);
-        due("by another seeking", 5, x.finds(0, 1));
+        x.seek(3, 123477, 52);
+        due("four points by another family's seeking", NONE, x.finds(3, 1));
+        x.seek(3, 123446, 50);
+        due("five points by one more", 5, x.finds(3, 1));
         x.record(1, 123446, 50, 200, 3);
-        due("of list 1, seen on all days", 6, x.finds(0, 3));
-        due("nothing is sought by it", NONE, x.finds(3, 0));
+        due("of list 1, seen on all days: five points", 5, x.finds(0, 3));
+        x.seek(0, 123446, 50);
+        due("six points", 6, x.finds(0, 3));
+        due("nothing is sought by it", NONE, x.finds(1, 0));
     }
 
     @Sentence("KIN are two FAMILIES of which one finds the other; MUTUAL, if each finds the other.")
@@ -638,5 +672,16 @@ final class TermSentences extends Checked {
         due("not of itself", 0, y.kin(0));
         y.join(2, 1);
         due("joined to one of its own", 4, y.kin(0));
+        BedOffice z = new BedOffice();
+        for (int i = 0; i < 4; i++) z.family(100, 0);
+        for (int f = 0; f < 4; f++) z.record(0, 111111 * f, 50, 0, f);
+        for (int f = 0; f < 4; f++) z.seek(f, 111111 * f, 50);
+        for (int f = 0; f < 4; f++) due("what is sought is its own: kin(" + f + ")", 0, z.kin(f));
+        for (int f = 0; f < 3; f++) {
+            z.seek(3, 111111 * f, 50);
+            z.seek(f, 333333, 50);
+        }
+        due("three, each both ways", 7, z.mutual(3));
+        due("three, each both ways", 7, z.kin(3));
     }
 }
