@@ -7,7 +7,9 @@ import java.nio.file.Files;
 import java.nio.file.Path;
 import java.util.ArrayList;
 import java.util.List;
+import java.util.Map;
 import java.util.Set;
+import java.util.TreeMap;
 import java.util.TreeSet;
 import java.util.regex.Matcher;
 import java.util.regex.Pattern;
@@ -111,13 +113,49 @@ public final class LanguageTest {
 
     private static void methods(String bare) {
         Matcher head = Pattern.compile("(?m)^( {4}| {8})(?! )[\\w ]*?[\\w\\[\\]]+ (\\w+)\\([^;{]*\\) \\{$").matcher(bare);
-        int found = 0;
+        Map<String, String> bodies = new TreeMap<>();
         while (head.find()) {
-            int end = bare.indexOf("\n" + head.group(1) + "}", head.start());
-            long lines = bare.substring(head.start(), end).chars().filter(c -> c == '\n').count() + 1;
-            due("sixty lines: " + head.group(2), lines <= 60);
-            found++;
+            String body = bare.substring(head.end(), bare.indexOf("\n" + head.group(1) + "}", head.start()));
+            due("sixty lines: " + head.group(2), body.chars().filter(c -> c == '\n').count() + 2 <= 60);
+            bodies.merge(head.group(2), body, String::concat);
         }
-        due("methods are seen", found > 100);
+        due("methods are seen", bodies.size() > 100);
+        depths(bodies);
+    }
+
+    /** Methods of one name count as one; those that call one another, as one too: that is recursion. */
+    private static void depths(Map<String, String> bodies) {
+        Map<String, Set<String>> reached = new TreeMap<>();
+        for (String name : bodies.keySet()) {
+            reached.put(name, new TreeSet<>());
+            Matcher call = Pattern.compile("(\\w+)\\(").matcher(bodies.get(name));
+            while (call.find()) {
+                if (bodies.containsKey(call.group(1))) reached.get(name).add(call.group(1));
+            }
+        }
+        Map<String, Set<String>> called = new TreeMap<>();
+        for (String name : reached.keySet()) called.put(name, new TreeSet<>(reached.get(name)));
+        for (String between : reached.keySet()) {
+            for (Set<String> from : reached.values()) {
+                if (from.contains(between)) from.addAll(reached.get(between));
+            }
+        }
+        for (String name : called.keySet()) {
+            int depth = depth(name, called, reached);
+            due("eight deep: " + name + " goes " + depth, depth <= 8);
+        }
+        due("calls are seen", depth("place", called, reached) > 5);
+    }
+
+    private static int depth(String name, Map<String, Set<String>> called, Map<String, Set<String>> reached) {
+        int deepest = 0;
+        for (String member : called.keySet()) {
+            boolean oneRecursion = member.equals(name) || reached.get(name).contains(member) && reached.get(member).contains(name);
+            if (!oneRecursion) continue;
+            for (String next : called.get(member)) {
+                if (!reached.get(next).contains(name) && !next.equals(name)) deepest = Math.max(deepest, depth(next, called, reached));
+            }
+        }
+        return deepest + 1;
     }
 }

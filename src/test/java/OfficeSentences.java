@@ -581,6 +581,17 @@ final class OfficeSentences extends Checked {
         x.go(1);
         due("nobody is housed there", 2 * 44, x.is(1, 3));
         due("of that day", 22 + 33, x.ended(2, 4));
+        BedOffice y = new BedOffice();
+        y.town(0, 0, 0);
+        y.home(0, 904, 200);
+        y.home(0, 904, 200);
+        y.family(100, 0);
+        y.family(900, 0);
+        y.place();
+        law(y, "sum (heads-5)*10;");
+        y.go(1);
+        due("what is below 0 for one takes nothing from what it is for another", 40, y.is(0, 3));
+        due("of that day", 40, y.ended(0, 4));
     }
 
     @Sentence("It is kept where each FAMILY was. NOW is one more.")

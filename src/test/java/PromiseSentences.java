@@ -232,6 +232,9 @@ final class PromiseSentences extends Checked {
             due("record " + i, i, x.record(r[0], r[1], r[2], r[3], r[4]));
         }
         due("60 came", NONE, x.record(0, 0, 0, 0, NONE));
+        BedOffice y = small();
+        y.leave(1);
+        due("of a family that is gone", 0, y.record(0, 0, 0, 0, 1));
     }
 
     @Sentence(promise = 10, value = "By how many points two RECORDS are ALIKE (may be below 0); -2147483648 if there are none such, of one LIST, or BARRED.")
@@ -268,6 +271,8 @@ final class PromiseSentences extends Checked {
         x.record(2, 123499, 5, 1001, NONE);
         due("four points", 2, x.match(0));
         due("of that one", 0, x.match(2));
+        x.join(0, 2);
+        due("joined to it already", 2, x.match(0));
         for (int n : beside(3)) due("match(" + n + ")", NONE, x.match(n));
     }
 
@@ -282,6 +287,8 @@ final class PromiseSentences extends Checked {
         due("a match, no rival", 0, x.rivals(0));
         x.record(1, 123477, 5, 1001, NONE);
         due("a rival", 1, x.rivals(0));
+        x.join(0, 3);
+        due("joined to it already", 1, x.rivals(0));
         for (int n : beside(4)) due("rivals(" + n + ")", NONE, x.rivals(n));
     }
 
@@ -358,6 +365,11 @@ final class PromiseSentences extends Checked {
         for (int i = 0; i < 40; i++) due("seeking " + i, true, x.seek(right[i % 4][0], right[i % 4][1], right[i % 4][2]));
         due("40 are told", false, x.seek(0, 0, 0));
         due("count(12)", 40, x.count(12));
+        BedOffice y = small();
+        y.leave(0);
+        due("a family that is gone", true, y.seek(0, 111111, 5));
+        y.record(0, 111111, 5, 0, 1);
+        due("it finds still", 6, y.finds(0, 1));
     }
 
     @Sentence(promise = 17, value = "HOW SURELY a FAMILY finds another one; NONE if it doesn't, or there are none such, or both are one.")
@@ -389,6 +401,9 @@ final class PromiseSentences extends Checked {
         x.record(0, 111111, 5, 0, 0);
         due("family 1", 2, x.kin(0));
         due("family 0", 1, x.kin(1));
+        x.leave(0);
+        due("family 1, of one that is gone", 2, x.kin(0));
+        due("family 0, that is gone", 1, x.kin(1));
         for (int n : beside(2)) due("kin(" + n + ")", NONE, x.kin(n));
     }
 
@@ -402,6 +417,9 @@ final class PromiseSentences extends Checked {
         x.record(0, 222222, 5, 0, 1);
         due("both ways", 2, x.mutual(0));
         due("both ways", 1, x.mutual(1));
+        x.leave(1);
+        due("with one that is gone", 2, x.mutual(0));
+        due("of one that is gone", 1, x.mutual(1));
         for (int n : beside(2)) due("mutual(" + n + ")", NONE, x.mutual(n));
     }
 
@@ -544,6 +562,10 @@ final class PromiseSentences extends Checked {
         due("ahead", 22, x.rank(0, 0));
         due("ahead", 12, x.rank(1, 0));
         due("limit", -2, x.rank(1, 1));
+        x.leave(1);
+        x.go(1);
+        due("ahead of one that is gone", 13, x.rank(1, 0));
+        due("limit of one that is gone", -2, x.rank(1, 1));
         for (int what : new int[] {LEAST, -1, 2, 3, MAX}) due("rank(0, " + what + ")", LEAST, x.rank(0, what));
         for (int n : beside(2)) {
             due("rank(" + n + ", 0)", LEAST, x.rank(n, 0));
